@@ -45,7 +45,7 @@ public final class StoryHouse {
     private static final int COUNT_EACHS = 6;
     private static final int COUNTS = 7;
 
-    // Kinds of words. A sign of one byte has that byte as its kind, a key KEY and its place in KEYS.
+    // Kinds of words. A sign of one byte has that byte as its kind, a key KEY and its place in the four lists.
     private static final int END = 0;
     private static final int BAD = 1;
     private static final int NAME = 2;
@@ -56,7 +56,12 @@ public final class StoryHouse {
     private static final int AT_MOST = 7;
     private static final int AT_LEAST = 8;
     private static final int KEY = 200;
-    private static final String KEYS = "north south east west up down container fixed hidden light open supporter dark alone one two and or not in has holder first next random here noun second player name room thing verb var array def on each text exit word say let move to remove set clear if else while return done win lose any all ";
+    private static final String WORLD_KEYS =
+            "north south east west up down container fixed hidden light open supporter dark alone one two ";
+    private static final String VALUE_KEYS = "and or not in has holder first next random here noun second player name ";
+    private static final String ITEM_KEYS = "room thing verb var array def on each text exit word ";
+    private static final String STATEMENT_KEYS =
+            "say let move to remove set clear if else while return done win lose any all ";
     private static final int KEY_COUNT = 57;
     private static final int NORTH = KEY;
     private static final int DOWN = KEY + 5;
@@ -614,7 +619,10 @@ public final class StoryHouse {
             strings = 0;
             named = 0;
             Arrays.fill(slots, 0);
-            learn(KEYS);
+            learn(WORLD_KEYS);
+            learn(VALUE_KEYS);
+            learn(ITEM_KEYS);
+            learn(STATEMENT_KEYS);
             learn(VERB_NAMES);
             int at = skip(0);
             for (int n = 0; n < length && at < length; n++) {

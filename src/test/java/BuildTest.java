@@ -11,6 +11,7 @@ public final class BuildTest {
         meanings();
         circles();
         stays();
+        anew();
         Bench.end();
     }
 
@@ -143,7 +144,12 @@ public final class BuildTest {
         Bench.fault(head + "if 1 {}" + " else if 1 {}".repeat(30) + "}", 5, head.length() + 7 + 28 * 13 + 11);
         Bench.builds(head + "if 1 {}" + " else if 1 {}".repeat(28) + "if 1 {}" + " else if 1 {}".repeat(28) + "}");
         Bench.builds(head + "x=" + "-1-(".repeat(29) + "1" + ")".repeat(29) + ";}");
-        Bench.builds(head + "x=" + "holder 1+".repeat(60) + "1;}");
+        for (String beside : new String[] {"holder 1", "f(1)", "a[1]", "(1)", "-1", "f(a[-(1)])", "random random 1"}) {
+            Bench.builds(head + "x=" + (beside + "+").repeat(60) + "1;}");
+            Bench.builds(head + ("if " + beside + "{} else if 1 {}").repeat(40) + "}");
+        }
+        Bench.builds(head + "x=" + "not 1 or not 1 and ".repeat(40) + "1;}");
+        Bench.builds(head + "f(1);".repeat(40) + "a[1]=2;".repeat(40) + "}");
     }
 
     private static void names() {
@@ -176,7 +182,7 @@ public final class BuildTest {
         Bench.fault(ROOM + "on take any any {}", 3, 26);
         Bench.fault(ROOM + "on putin any any any {}", 2, 31);
         Bench.fault(ROOM + "on go any any {}", 3, 24);
-        Bench.builds(ROOM + "on go {} on go any {} on go up {} on take player {}");
+        Bench.builds(ROOM + "on go {} on go any {} on go north {} on go up {} on go down {} on take player {}");
         Bench.fault(ROOM + "on go player {}", 3, 20);
         Bench.fault(ROOM + "on take up {}", 3, 22);
         Bench.fault(ROOM + "on take r {}", 3, 22);
@@ -211,6 +217,36 @@ public final class BuildTest {
         Bench.builds(ROOM + "thing t \"T\" { in t; in r; }");
         Bench.builds(ROOM + "thing t \"T\" { in t; in player; } thing u \"U\" { in t; }");
         Bench.fault("thing t \"T\" { in q; }", 3, 17);
+    }
+
+    /** Nothing of a source is left in the next ones, whether it had a fault or not. */
+    private static void anew() {
+        Bench bench = new Bench();
+        Bench.same("a fault with names seen", -4, bench.build(ROOM + "def f(p) { let y = 1; if 1 { let z = 2; let r = 3; } }"));
+        Bench.same("the same names again", 2, bench.build("room r \"R\" {} var y = 1; each { let z = y; if 1 { let p = z; } }"));
+        Bench.same("a fault behind a let", -4, bench.build(ROOM + "each { let r = 3; }"));
+        Bench.same("and again", 3, bench.build("thing t \"T\" { word r; } room r \"R\" { exit up r; } each { let p = r; say p; }"));
+        Bench.same("lets of many routines", 2, bench.build(ROOM + "each { let y = 1; let z = y; if y { let x = 1; } } ".repeat(15)));
+        for (int i = 0; i < 2; i++) {
+            bench.build("room r \"R\" { dark; text \"x\"; exit up s; } room s \"S\" {} thing t \"T\" { in r; word tt; light; } "
+                    + "def f() { say 7; } on wait { say 8; done; } each { say 9; }");
+        }
+        bench.build("room r \"R\" {} thing s \"S\" { word tt; } thing t \"T\" {} on wait { say t in 0; move player to s; }");
+        bench.house.begin(1);
+        Bench.same("no text, not dark", "R\n", bench.out());
+        Bench.same("no room any more", "2 [break 2]\n", bench.play("z"));
+        Bench.same("no exit", "1 You can not go there.\n", bench.play("up"));
+        Bench.same("another's word", "0 You see no such thing.\n", bench.play("x tt"));
+        Bench.same("no attributes", false, bench.house.has(2, 6) || bench.house.has(4, 3));
+        for (int i = 0; i < 50; i++) {
+            String text = ("" + (char) ('a' + i % 26)).repeat(200);
+            Bench.same("built " + i, 2, bench.build("room r \"R\" { text \"" + text + "\"; } " + ("def f() { say \"" + text + "\"; }")
+                    + " on wait { say " + i + "; f(); done; } each { say \"" + text + "\"; }"));
+            bench.house.begin(i);
+            Bench.same("told " + i, "R\n" + text + "\n", bench.out());
+            Bench.same("played " + i, "1 " + i + text + text, bench.play("z"));
+            Bench.same("sound " + i, true, bench.house.sound());
+        }
     }
 
     private static void stays() {

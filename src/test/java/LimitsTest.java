@@ -15,6 +15,7 @@ public final class LimitsTest {
         ownWords();
         locals();
         bytes();
+        lastOnes();
         Bench.end();
     }
 
@@ -62,6 +63,38 @@ public final class LimitsTest {
         String each = "each { " + lets + lets.toString().replace('y', 'z');
         Bench.fault(ROOM + each + "}", 5, ROOM.length() + each.indexOf("z6"));
         Bench.builds(ROOM + (each + "}").replace("let z6", "say 1 +").replace("let z7", "say 1 +").replace("+ =", "+"));
+    }
+
+    /** The last of each kind that a story may have does all that the others do. */
+    private static void lastOnes() {
+        String head = "room r \"R\" {}" + many("thing t%d \"\"{}", 116).substring(ROOM.length());
+        String objects = head + "room s \"S\" { dark; exit up r; exit down s; } thing u \"U\" { in s; word uu; container; open; text \"It.\"; } "
+                + "each { if here == r { move player to s; move t0 to u; set u light; } say u; }";
+        Bench bench = new Bench();
+        Bench.same("120 objects", 120, bench.build(objects));
+        bench.house.begin(1);
+        Bench.same("to the last room", "1 Time passes.\n120", bench.play("z"));
+        Bench.same("the last thing there", 120, bench.house.first(1, true));
+        Bench.same("what is in it", 3, bench.house.first(120, false));
+        Bench.same("its attributes", true, bench.house.has(120, 0) && bench.house.has(120, 3) && bench.house.has(119, 6));
+        Bench.same("seen", "1 It.\n120", bench.play("x uu"));
+        Bench.same("taken", "1 Taken.\n120", bench.play("take uu"));
+        Bench.same("the last room's exits", "1 S\n120", bench.play("d"));
+        bench.house.undo();
+        Bench.same("sound", true, bench.house.sound());
+        bench = Bench.playing("room r \"R\" {}" + many("verb v%d vv alone;", 48).substring(ROOM.length())
+                + "verb w ww two with; on w player player { say 60; done; }");
+        Bench.same("60 verbs", 60, bench.house.told(1));
+        Bench.same("the last verb", "1 60", bench.play("ww me with me"));
+        bench = Bench.playing(ROOM + many("var x%d=1;", 99).substring(ROOM.length()) + "var y=-8;"
+                + many("array a%d[10];", 18).substring(ROOM.length()) + "array b[400];array c[400];"
+                + many("def f%d(){}", 98).substring(ROOM.length()) + "def g(){ y = y * 2; c[399] = 5; b[0] = 6; } def last() { g(); }"
+                + many("on look{}", 199).substring(ROOM.length()) + "on wait { last(); done; }" + many("each{}", 19).substring(ROOM.length())
+                + "each { y = y - 1; }");
+        Bench.same("all of a turn", "1 ", bench.play("z"));
+        Bench.same("the last var", -17, bench.house.value(99));
+        Bench.same("the last cells", "5 6 0", bench.house.cell(19, 399) + " " + bench.house.cell(18, 0) + " " + bench.house.cell(19, 0));
+        Bench.same("sound with all", true, bench.house.sound());
     }
 
     private static void bytes() {

@@ -80,6 +80,9 @@ public final class NumbersTest {
         bench.house.begin(42);
         Bench.same("random", "1 3 0 0 61", bench.play("z"));
         Bench.same("drawn twice", -1501269880, bench.house.told(11));
+        bench = Bench.playing("room r \"R\" {} on wait { say random 1, random 1; done; }");
+        Bench.same("of one", "1 11", bench.play("z"));
+        Bench.same("drawn, too", (1 * 69069 + 1) * 69069 + 1, bench.house.told(11));
     }
 
     private static void calls() {

@@ -33,6 +33,12 @@ public final class PlaysTest {
         bench.play("end");
         bench.house.begin(8);
         Bench.same("not ended", 0, bench.house.told(8));
+        Bench.same("OUT begins anew", "R\nThere is B here.\nThere is A here.\n", bench.out());
+        bench = Bench.playing("room r \"R\" {} thing a \"A\" {} thing b \"B\" { in r; } on wait { move a to r; move b to a; }");
+        bench.play("z");
+        bench.house.begin(8);
+        Bench.same("in nothing again", "0 0 2 4 1", bench.house.holder(3) + " " + bench.house.first(3, false) + " " + bench.house.holder(4)
+                + " " + bench.house.first(2, false) + " " + bench.house.first(4, true));
     }
 
     private static void out() {

@@ -192,5 +192,9 @@ public final class RulesTest {
         Bench.same("the player comes first", 1, bench.house.first(2, false));
         bench.play("d");
         Bench.same("to the same room", 2, bench.house.holder(1));
+        bench = Bench.playing("room r \"R\" { exit up r; } thing a \"A\" { in r; word aa; } thing b \"B\" { in r; word bb; } thing c \"C\" { in r; word cc; }");
+        bench.playAll("up", "take aa");
+        Bench.same("taken from behind the others", "1 5 4 0 3", bench.house.first(2, false) + " " + bench.house.first(1, true) + " "
+                + bench.house.first(5, true) + " " + bench.house.first(4, true) + " " + bench.house.first(1, false));
     }
 }

@@ -822,47 +822,39 @@ public final class StoryHouse {
 
         private void item() {
             int word = at;
-            switch (kind) {
+            int key = kind;
+            needFrom(ROOM, EACH);
+            switch (key) {
                 case ROOM:
-                    pass();
                     roomItem();
                     break;
                 case THING:
-                    pass();
                     thingItem();
                     break;
                 case VERB:
-                    pass();
                     verbItem();
                     break;
                 case VAR:
-                    pass();
                     varItem();
                     break;
                 case ARRAY:
-                    pass();
                     arrayItem();
                     break;
                 case DEF:
-                    pass();
                     defHead();
-                    block();
-                    endRoutine(word);
                     break;
                 case ON:
-                    pass();
                     onHead();
-                    block();
-                    endRoutine(word);
                     break;
                 case EACH:
-                    pass();
                     code.openEach();
-                    block();
-                    endRoutine(word);
                     break;
                 default:
-                    fail(2);
+                    break;
+            }
+            if (key >= DEF && key <= EACH) {
+                block();
+                endRoutine(word);
             }
         }
 
@@ -931,7 +923,6 @@ public final class StoryHouse {
             if (kind == bracket) {
                 deepen();
             } else {
-                nest++;
                 fail(2);
             }
         }

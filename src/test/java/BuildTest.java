@@ -226,14 +226,16 @@ public final class BuildTest {
         Bench.same("the same names again", 2, bench.build("room r \"R\" {} var y = 1; each { let z = y; if 1 { let p = z; } }"));
         Bench.same("a fault behind a let", -4, bench.build(ROOM + "each { let r = 3; }"));
         Bench.same("and again", 3, bench.build("thing t \"T\" { word r; } room r \"R\" { exit up r; } each { let p = r; say p; }"));
+        Bench.same("a var", 2, bench.build(ROOM + "var y = 1;"));
+        Bench.same("no var any more", -3, bench.build(ROOM + "each { y = 1; }"));
         Bench.same("lets of many routines", 2, bench.build(ROOM + "each { let y = 1; let z = y; if y { let x = 1; } } ".repeat(15)));
         for (int i = 0; i < 2; i++) {
             bench.build("room r \"R\" { dark; text \"x\"; exit up s; } room s \"S\" {} thing t \"T\" { in r; word tt; light; } "
                     + "def f() { say 7; } on wait { say 8; done; } each { say 9; }");
         }
-        bench.build("room r \"R\" {} thing s \"S\" { word tt; } thing t \"T\" {} on wait { say t in 0; move player to s; }");
+        bench.build("room r \"R\" {} thing s \"S\" { word tt; } thing t \"T\" { in r; } on wait { say t in 0; move player to s; }");
         bench.house.begin(1);
-        Bench.same("no text, not dark", "R\n", bench.out());
+        Bench.same("no text, not dark", "R\nThere is T here.\n", bench.out());
         Bench.same("no room any more", "2 [break 2]\n", bench.play("z"));
         Bench.same("no exit", "1 You can not go there.\n", bench.play("up"));
         Bench.same("another's word", "0 You see no such thing.\n", bench.play("x tt"));

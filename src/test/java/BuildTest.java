@@ -253,7 +253,9 @@ public final class BuildTest {
 
     private static void stays() {
         Bench bench = Bench.playing("room r \"Old\" {} thing t \"T\" {} var x = 7;");
-        bench.house.save(2);
+        for (int place = 0; place < 4; place++) {
+            bench.house.save(place);
+        }
         Bench.same("a fault", -3, bench.build("room r \"New\" {} each { q = 1; }"));
         Bench.same("its place", 23, bench.house.place());
         Bench.same("objects stay", 3, bench.house.told(0));
@@ -264,7 +266,10 @@ public final class BuildTest {
         Bench.same("built anew", 2, bench.build("room r \"New\" {}"));
         Bench.same("no place", StoryHouse.NONE, bench.house.place());
         Bench.refuses("no play", IllegalStateException.class, bench.house::enter);
-        Bench.refuses("nothing saved", IllegalStateException.class, () -> bench.house.restore(2));
+        for (int place = 0; place < 4; place++) {
+            int left = place;
+            Bench.refuses("nothing saved", IllegalStateException.class, () -> bench.house.restore(left));
+        }
         Bench.refuses("no such object", IndexOutOfBoundsException.class, () -> bench.house.holder(3));
         Bench.refuses("not played", IllegalStateException.class, () -> bench.house.holder(2));
         bench.house.begin(0);

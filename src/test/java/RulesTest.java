@@ -77,6 +77,9 @@ public final class RulesTest {
         Bench.same("again is still the latest", "0 There is nothing to do.\n", bench.play("g"));
         Bench.same("drop all", "1 A: Dropped.\nB: Dropped.\nE: Dropped.\n8", bench.play("drop the all"));
         Bench.same("one undo each", 2, bench.house.told(10));
+        bench = Bench.playing(story + "on k { set e fixed; }");
+        bench.playAll("take all", "drop all", "k");
+        Bench.same("not what was put down before", "1 B: Taken.\nA: Taken.\n4", bench.play("take all"));
         bench = Bench.playing(story + "on take e { move b to s; } on take a { say \"no^\"; done; }");
         Bench.same("one that is gone", "1 E: Taken.\nA: no\n4", bench.play("take all"));
         bench = Bench.playing(story + "on take e { set b fixed; move player to s; }");

@@ -147,7 +147,6 @@ public final class StoryHouse {
     private static final int WORD_ALL = 3;
     private static final int WORD_THE = 4;
     private static final int WORD_AN = 6;
-    private static final int WORD_ME = 7;
     private static final int WORD_GO = 8;
     private static final int WORD_NORTH = 9;
     private static final int DIRECTIONS = 6;

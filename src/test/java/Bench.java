@@ -4,6 +4,7 @@ import java.util.Objects;
 final class Bench {
     private static int checks;
     private static int wrong;
+    private static String sentence = "";
 
     final StoryHouse house = new StoryHouse();
 
@@ -82,11 +83,16 @@ final class Bench {
         same("build of " + source, "true, -1", (got > 0) + ", " + bench.house.place());
     }
 
+    /** The sentence that the next checks are about, with the promise or the term that it belongs to. */
+    static void about(String next) {
+        sentence = next + ": ";
+    }
+
     static void same(String what, Object due, Object got) {
         checks++;
         if (!Objects.equals(due, got)) {
             wrong++;
-            System.out.println(what + ": due is [" + due + "], answered [" + got + "]");
+            System.out.println(sentence + what + ": due is [" + due + "], answered [" + got + "]");
         }
     }
 
